@@ -69,8 +69,13 @@ public final class TracePromisesTest {
         Checks.due("13: ghost recovery", y.sample(87, 2), 500);
         Checks.due("13: behind the ghost", y.sample(88, 2), 0);
         Checks.due("13: no ghost of the ghost", y.sample(100, 2), 0);
-        FiberTrace z = Checks.laid("end 0;");
-        Checks.due("13: no end reflection", z.sample(200, 2), 0);
+        Checks.due("13: no end reflection", Checks.laid("end 0;").sample(200, 2), 0);
+        Checks.due("13: the least end reflection", Checks.laid("end 1;").sample(204, 2), 1);
+        FiberTrace z = Checks.laid("length 400;end 20000;");
+        z.set(1, 100);
+        Checks.due("13: the last place of the longest", z.sample(459, 0), 5000 + 20000 - 5500);
+        Checks.due("13: the last base of the longest", z.sample(399, 1), 50000 - 3990);
+        Checks.due("13: behind the longest", z.sample(460, 0), Checks.INVALID);
     }
 
     private static void promise13Noise() {
@@ -152,6 +157,15 @@ public final class TracePromisesTest {
         echoIs(x, 4, 60, 300, 20, 40);
         echoIs(x, 5, 70, 250, 10, 40);
         Checks.due("14: echo(6, 0)", x.echo(6, 0), Checks.NOT_FOUND);
+        FiberTrace y = new FiberTrace();
+        y.set(2, 0);
+        for (int place = 10; place <= 100; place += 10) {
+            y.addPart(1, place, 0, place);
+        }
+        echoIs(y, 0, 30, 15, 10, 20);
+        echoIs(y, 53, 380, 12020 / 2, 20, 200);
+        echoIs(y, 54, 390, 12010 / 2, 10, 200);
+        Checks.due("14: of 11 reflections", y.echo(55, 0), Checks.NOT_FOUND);
     }
 
     private static void promise15PulsesFor() {
@@ -166,12 +180,21 @@ public final class TracePromisesTest {
         Checks.due("15: 401", x.pulsesFor(401), Checks.INVALID);
         Checks.due("15: the pulses stay", x.count(4), 4);
         Checks.due("15: no change", x.count(17), 2);
+        Checks.due("15: the greatest", quiet(30, 1), 32);
+        Checks.due("15: the greatest of another seed", quiet(26, 2), 32);
         x.set(4, 18);
         int greatest = 0;
         for (int place = 0; place < 140; place++) {
             greatest = Math.max(greatest, Math.abs(x.sample(place, 3)));
         }
         Checks.due("15: the limit holds", greatest <= 40 ? 1 : 0, 1);
+    }
+
+    private static int quiet(int limit, int seed) {
+        FiberTrace x = new FiberTrace();
+        x.set(3, 100);
+        x.set(5, seed);
+        return x.pulsesFor(limit);
     }
 
     private static void promise16Events() {
@@ -250,6 +273,8 @@ public final class TracePromisesTest {
         Checks.due("17: E is no end", y.event(1, 4), 0);
         y.set(8, last + 1);
         Checks.due("17: less than E is the end", y.event(1, 4), 3);
+        FiberTrace v = Checks.laid("connector 100 0 2000;connector 103 0 7000;");
+        eventIs(v, 0, 100, 104, 49010 - 55960, 55970 - 49010, 1, 990, Checks.NOT_FOUND, Checks.NOT_FOUND);
         FiberTrace z = Checks.laid("attenuation 50;connector 100 5000 2000;");
         z.set(8, 40000);
         eventIs(z, 0, 100, 106, 45050 - 39700, 950, 3, 4950, Checks.NOT_FOUND, Checks.NOT_FOUND);
@@ -263,6 +288,11 @@ public final class TracePromisesTest {
         Checks.due("17: without makers", x.event(2, 6), Checks.NOT_FOUND);
         x.set(10, 90);
         Checks.due("17: Q is a ghost", x.event(2, 4), 2);
+        x.addPart(0, 85, -500, 0);
+        Checks.due("17: a gain", x.event(2, 2), -400);
+        Checks.due("17: more than Q is no ghost either", x.event(2, 4), 1);
+        x.set(10, 400);
+        Checks.due("17: a gain of Q is a ghost", x.event(2, 4), 2);
         FiberTrace y = Checks.laid("connector 40 0 8000;connector 60 0 8000;connector 83 0 8000;connector 107 0 8000;");
         Checks.due("17: T from the place", y.event(2, 4), 2);
         Checks.due("17: T from no place", y.event(3, 4), 1);
@@ -392,6 +422,9 @@ public final class TracePromisesTest {
         Checks.due("22: none", y.widthFor(), Checks.NOT_FOUND);
         FiberTrace z = Checks.laid("splice 30 -100;splice 19 800;");
         Checks.due("22: a wide one", z.widthFor(), 14);
+        FiberTrace w = Checks.laid("splice 20 1000;splice 25 -10;");
+        w.set(7, 59);
+        Checks.due("22: the greatest", w.widthFor(), 20);
     }
 
     private static void promise23Keep() {
@@ -452,6 +485,9 @@ public final class TracePromisesTest {
         Checks.due("24: none kept", x.compare(0, 0, 0), Checks.INVALID);
         x.keep();
         compareIs(x, 0, 0, Checks.NOT_FOUND, 0, 0, 0);
+        x.set(3, 100);
+        Checks.due("24: the first place", x.compare(0, x.sample(0, 3) - 1, 0), 0);
+        x.undo();
         x.addPart(0, 100, 300, 0);
         compareIs(x, 0, 0, 100, 100, 300, 104);
         compareIs(x, 0, 60, 101, 99, 300, 104);
