@@ -381,6 +381,7 @@ public final class FiberTrace {
         echoes.find(state.link, at(settings, ECHO_LOSS));
         trace.make(state.link, settings, echoes, noise);
         reading.read(trace.samples, trace.size, settings);
+        reading.findGhosts(at(settings, GHOST_LOSS));
     }
 
     private boolean isTracePlace(int place) {
@@ -1012,7 +1013,6 @@ public final class FiberTrace {
                     x = Math.max(x, end);
                 }
             }
-            findGhosts(at(settings, GHOST_LOSS));
         }
 
         private static int endFrom(int[] values, int places, int least, int step) {
@@ -1047,7 +1047,7 @@ public final class FiberTrace {
         }
 
         /** In the order of the events, for a ghost makes no ghosts. */
-        private void findGhosts(int ghostLoss) {
+        void findGhosts(int ghostLoss) {
             for (int i = 0; i < size; i++) {
                 if (at(kinds, i) == REFLECTIVE && Math.abs(at(losses, i)) <= ghostLoss) {
                     findMakers(i);

@@ -273,8 +273,8 @@ public final class TracePromisesTest {
         Checks.due("17: E is no end", y.event(1, 4), 0);
         y.set(8, last + 1);
         Checks.due("17: less than E is the end", y.event(1, 4), 3);
-        FiberTrace v = Checks.laid("connector 100 0 2000;connector 103 0 7000;");
-        eventIs(v, 0, 100, 104, 49010 - 55960, 55970 - 49010, 1, 990, Checks.NOT_FOUND, Checks.NOT_FOUND);
+        FiberTrace v = Checks.laid("connector 100 0 2000;connector 104 0 7000;");
+        eventIs(v, 0, 100, 104, 49010 - 55960, 55960 - 49010, 1, 990, Checks.NOT_FOUND, Checks.NOT_FOUND);
         FiberTrace z = Checks.laid("attenuation 50;connector 100 5000 2000;");
         z.set(8, 40000);
         eventIs(z, 0, 100, 106, 45050 - 39700, 950, 3, 4950, Checks.NOT_FOUND, Checks.NOT_FOUND);
@@ -338,6 +338,11 @@ public final class TracePromisesTest {
         x.set(8, 0);
         Checks.due("18: no end", x.total(7), 0);
         Checks.due("18: one plain more", x.total(3), 2);
+        x.set(8, 40000);
+        x.removePart(0);
+        x.removePart(0);
+        Checks.due("18: one event", x.events(), 1);
+        Checks.due("18: falls to its end", x.total(6), 50000 - 17000);
         for (int what = 0; what < 8; what++) {
             Checks.due("18: total(" + what + ") without events", dark().total(what), 0);
         }
@@ -409,7 +414,9 @@ public final class TracePromisesTest {
         FiberTrace x = Checks.laid("change 50 30;");
         Checks.due("22: nothing to find", x.widthFor(), 1);
         FiberTrace y = Checks.laid("connector 13 0 5000;connector 17 0 5000;");
+        Checks.due("22: found with the width 5", y.findings(0), 1);
         Checks.due("22: the least", y.widthFor(), 2);
+        Checks.due("22: the events stay", y.findings(0), 1);
         Checks.due("22: the width stays", y.count(0), 5);
         Checks.due("22: no change", y.count(17), 1);
         Checks.due("22: the trace stays", y.sample(17, 2), 5000);
