@@ -738,13 +738,19 @@ public final class FiberTrace {
             return word == FIRST_PART_WORD + CONNECTOR ? 3 : 2;
         }
 
+        /** A word is a whole run of letters: a name with letters behind it is no such word. */
         private int wordAt(int begin) {
             for (int word = 0; word < WORDS; word++) {
-                if (standsAt(nameOf(word), begin)) {
+                String name = nameOf(word);
+                if (standsAt(name, begin) && !isLetter(signAt(begin + name.length()))) {
                     return word;
                 }
             }
             return NONE;
+        }
+
+        private static boolean isLetter(int sign) {
+            return isWithin(sign, 'a', 'z') || isWithin(sign, 'A', 'Z');
         }
 
         private boolean standsAt(String name, int begin) {

@@ -9,6 +9,7 @@ public final class LinkPromisesTest {
         promise2Type();
         promise3ClearText();
         promise4FaultReasons();
+        promise4FaultWords();
         promise4FaultNumbers();
         promise4FaultOrder();
         promise4FaultWrongInputs();
@@ -98,7 +99,6 @@ public final class LinkPromisesTest {
         faultIs("end  5;", 0, 2, 1);
         faultIs("end -;", 0, 2, 1);
         faultIs("end --5;", 0, 2, 1);
-        faultIs("ends 5;", 0, 2, 1);
         faultIs("length 49;", 0, 3, 1);
         faultIs("length 401;", 0, 3, 1);
         faultIs("attenuation 51;", 0, 3, 1);
@@ -110,6 +110,24 @@ public final class LinkPromisesTest {
         faultIs("end 5", 0, 5, 1);
         faultIs("end 5 ;", 0, 5, 1);
         faultIs("end 5:", 0, 5, 1);
+    }
+
+    private static void promise4FaultWords() {
+        for (String word : new String[] {"length", "attenuation", "end", "splice", "connector", "change"}) {
+            for (char letter : "aizAIZ".toCharArray()) {
+                faultIs(word + letter, 0, 1, 0);
+                faultIs(word + letter + " 60 5 5;", 0, 1, 0);
+            }
+            for (char sign : "@[`{/0:_-; ".toCharArray()) {
+                faultIs(word + sign, 0, 2, 1);
+            }
+            faultIs(word.substring(0, word.length() - 1), 0, 1, 0);
+            faultIs("end 5;" + word + "s 1;", 6, 1, 0);
+            faultIs("end 5;" + word + word, 6, 1, 0);
+            faultIs(word, 0, 2, 1);
+        }
+        faultIs("splice 9 9splice 8 8;", 0, 5, 2);
+        faultIs("splice 9 9;splice 8 8;changed", 22, 1, 0);
     }
 
     private static void promise4FaultNumbers() {

@@ -241,11 +241,9 @@ final class Model {
         List<Part> parts = new ArrayList<>();
         int at = 0;
         while (at < text.length()) {
-            int word = 0;
-            while (word < 6 && !text.startsWith(words[word], at)) {
-                word++;
-            }
-            if (word == 6) {
+            String letters = text.substring(at).split("[^A-Za-z]", 2)[0];
+            int word = List.of(words).indexOf(letters);
+            if (word < 0) {
                 return new Laid(null, new Fault(at, 1, 0));
             }
             int p = at + words[word].length();

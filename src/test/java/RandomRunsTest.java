@@ -6,6 +6,7 @@ public final class RandomRunsTest {
     private static final int CALLS = 512;
     private static final int[] EDGES = {-1, 0, Integer.MIN_VALUE, Integer.MAX_VALUE, 1000001, -1000001};
     private static final String[] ITEMS = {"length", "attenuation", "end", "splice", "connector", "change"};
+    private static final String MISTYPED = " ;-0x9Se_";
 
     private final Random random;
     private final FiberTrace fiber = new FiberTrace();
@@ -148,11 +149,14 @@ public final class RandomRunsTest {
             item.append(' ').append(k == 0 && word > 2 ? String.valueOf(1 + random.nextInt(60)) : number());
         }
         item.append(';');
+        if (random.nextInt(12) == 0) {
+            item.insert(ITEMS[word].length(), MISTYPED.charAt(random.nextInt(MISTYPED.length())));
+        }
         if (random.nextInt(10) == 0) {
-            item.setCharAt(random.nextInt(item.length()), " ;-0x9".charAt(random.nextInt(6)));
+            item.setCharAt(random.nextInt(item.length()), MISTYPED.charAt(random.nextInt(MISTYPED.length())));
         }
         if (random.nextInt(15) == 0) {
-            item.insert(random.nextInt(item.length()), " ;-0x9".charAt(random.nextInt(6)));
+            item.insert(random.nextInt(item.length()), MISTYPED.charAt(random.nextInt(MISTYPED.length())));
         }
         return item.toString();
     }
