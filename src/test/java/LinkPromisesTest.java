@@ -70,98 +70,82 @@ public final class LinkPromisesTest {
         Checks.due("3: end", x.count(13), 0);
     }
 
-    private static void faultIs(String text, int index, int reason, int number) {
-        FiberTrace x = new FiberTrace();
-        Checks.write(x, text);
-        Checks.due("4: index of '" + text + "'", x.fault(0), index);
-        Checks.due("4: reason of '" + text + "'", x.fault(1), reason);
-        Checks.due("4: number of '" + text + "'", x.fault(2), number);
-        Checks.due("5: lay '" + text + "'", x.lay(), Checks.NOT_POSSIBLE);
-        Checks.due("5: no change by '" + text + "'", x.count(17), 0);
-    }
-
-    private static void soundIs(String text) {
-        FiberTrace x = new FiberTrace();
-        Checks.write(x, text);
-        Checks.due("4: no fault in '" + text + "'", x.fault(1), Checks.NOT_FOUND);
-    }
-
     private static void promise4FaultReasons() {
-        faultIs(";", 0, 1, 0);
-        faultIs(" end 5;", 0, 1, 0);
-        faultIs("End 5;", 0, 1, 0);
-        faultIs("end 5; end", 6, 1, 0);
-        faultIs("chang", 0, 1, 0);
-        faultIs("end", 0, 2, 1);
-        faultIs("end ", 0, 2, 1);
-        faultIs("end;", 0, 2, 1);
-        faultIs("end5;", 0, 2, 1);
-        faultIs("end  5;", 0, 2, 1);
-        faultIs("end -;", 0, 2, 1);
-        faultIs("end --5;", 0, 2, 1);
-        faultIs("length 49;", 0, 3, 1);
-        faultIs("length 401;", 0, 3, 1);
-        faultIs("attenuation 51;", 0, 3, 1);
-        faultIs("attenuation -1;", 0, 3, 1);
-        faultIs("end 20001;", 0, 3, 1);
-        faultIs("end 5;end 5;", 6, 4, 1);
-        faultIs("change 9 9;attenuation 5;", 11, 4, 1);
-        faultIs("splice 9 9;change 9 9;", 11, 4, 2);
-        faultIs("end 5", 0, 5, 1);
-        faultIs("end 5 ;", 0, 5, 1);
-        faultIs("end 5:", 0, 5, 1);
+        Checks.faultIs(";", 0, 1, 0);
+        Checks.faultIs(" end 5;", 0, 1, 0);
+        Checks.faultIs("End 5;", 0, 1, 0);
+        Checks.faultIs("end 5; end", 6, 1, 0);
+        Checks.faultIs("chang", 0, 1, 0);
+        Checks.faultIs("end", 0, 2, 1);
+        Checks.faultIs("end ", 0, 2, 1);
+        Checks.faultIs("end;", 0, 2, 1);
+        Checks.faultIs("end5;", 0, 2, 1);
+        Checks.faultIs("end  5;", 0, 2, 1);
+        Checks.faultIs("end -;", 0, 2, 1);
+        Checks.faultIs("end --5;", 0, 2, 1);
+        Checks.faultIs("length 49;", 0, 3, 1);
+        Checks.faultIs("length 401;", 0, 3, 1);
+        Checks.faultIs("attenuation 51;", 0, 3, 1);
+        Checks.faultIs("attenuation -1;", 0, 3, 1);
+        Checks.faultIs("end 20001;", 0, 3, 1);
+        Checks.faultIs("end 5;end 5;", 6, 4, 1);
+        Checks.faultIs("change 9 9;attenuation 5;", 11, 4, 1);
+        Checks.faultIs("splice 9 9;change 9 9;", 11, 4, 2);
+        Checks.faultIs("end 5", 0, 5, 1);
+        Checks.faultIs("end 5 ;", 0, 5, 1);
+        Checks.faultIs("end 5:", 0, 5, 1);
     }
 
     private static void promise4FaultWords() {
         for (String word : new String[] {"length", "attenuation", "end", "splice", "connector", "change"}) {
             for (char letter : "aizAIZ".toCharArray()) {
-                faultIs(word + letter, 0, 1, 0);
-                faultIs(word + letter + " 60 5 5;", 0, 1, 0);
+                Checks.faultIs(word + letter, 0, 1, 0);
+                Checks.faultIs(word + letter + " 60 5 5;", 0, 1, 0);
             }
             for (char sign : "@[`{/0:_-; ".toCharArray()) {
-                faultIs(word + sign, 0, 2, 1);
+                Checks.faultIs(word + sign, 0, 2, 1);
             }
-            faultIs(word.substring(0, word.length() - 1), 0, 1, 0);
-            faultIs("end 5;" + word + "s 1;", 6, 1, 0);
-            faultIs("end 5;" + word + word, 6, 1, 0);
-            faultIs(word, 0, 2, 1);
+            Checks.faultIs(word.substring(0, word.length() - 1), 0, 1, 0);
+            Checks.faultIs("end 5;" + word + "s 1;", 6, 1, 0);
+            Checks.faultIs("end 5;" + word + word, 6, 1, 0);
+            Checks.faultIs(word, 0, 2, 1);
         }
-        faultIs("splice 9 9splice 8 8;", 0, 5, 2);
-        faultIs("splice 9 9;splice 8 8;changed", 22, 1, 0);
+        Checks.faultIs("splice 9 9splice 8 8;", 0, 5, 2);
+        Checks.faultIs("splice 9 9;splice 8 8;changed", 22, 1, 0);
     }
 
     private static void promise4FaultNumbers() {
-        faultIs("splice 200 5;", 0, 3, 1);
-        faultIs("splice 0 5;", 0, 3, 1);
-        faultIs("length 60;splice 60 5;", 10, 3, 1);
-        faultIs("splice 5 5001;", 0, 3, 2);
-        faultIs("splice 5 -501;", 0, 3, 2);
-        faultIs("connector 5 -1 5;", 0, 3, 2);
-        faultIs("connector 5 5001 5;", 0, 3, 2);
-        faultIs("connector 5 5 0;", 0, 3, 3);
-        faultIs("connector 5 5 20001;", 0, 3, 3);
-        faultIs("connector 5 5;", 0, 2, 3);
-        faultIs("change 5 51;", 0, 3, 2);
-        faultIs("change 5 -1;", 0, 3, 2);
-        faultIs("connector 5 5 5", 0, 5, 3);
-        faultIs("splice 123456 5;", 0, 2, 2);
-        faultIs("end 000001;", 0, 5, 1);
-        soundIs("end 00001;");
-        soundIs("end -00000;");
-        soundIs("length 60;splice 59 -500;connector 1 5000 20000;change 2 50;");
-        soundIs("end 20000;attenuation 0;length 400;splice 399 5000;");
-        soundIs("splice 1 0;splice 2 0;splice 3 0;splice 4 0;splice 5 0;splice 6 0;splice 7 0;splice 8 0;splice 9 0;splice 10 0;");
+        Checks.faultIs("splice 200 5;", 0, 3, 1);
+        Checks.faultIs("splice 0 5;", 0, 3, 1);
+        Checks.faultIs("length 60;splice 60 5;", 10, 3, 1);
+        Checks.faultIs("splice 5 5001;", 0, 3, 2);
+        Checks.faultIs("splice 5 -501;", 0, 3, 2);
+        Checks.faultIs("connector 5 -1 5;", 0, 3, 2);
+        Checks.faultIs("connector 5 5001 5;", 0, 3, 2);
+        Checks.faultIs("connector 5 5 0;", 0, 3, 3);
+        Checks.faultIs("connector 5 5 20001;", 0, 3, 3);
+        Checks.faultIs("connector 5 5;", 0, 2, 3);
+        Checks.faultIs("change 5 51;", 0, 3, 2);
+        Checks.faultIs("change 5 -1;", 0, 3, 2);
+        Checks.faultIs("connector 5 5 5", 0, 5, 3);
+        Checks.faultIs("splice 123456 5;", 0, 2, 2);
+        Checks.faultIs("end 000001;", 0, 5, 1);
+        Checks.soundIs("end 00001;");
+        Checks.soundIs("end -00000;");
+        Checks.soundIs("length 60;splice 59 -500;connector 1 5000 20000;change 2 50;");
+        Checks.soundIs("end 20000;attenuation 0;length 400;splice 399 5000;");
+        Checks.soundIs("splice 1 0;splice 2 0;splice 3 0;splice 4 0;splice 5 0;splice 6 0;splice 7 0;splice 8 0;splice 9 0;splice 10 0;");
     }
 
     private static void promise4FaultOrder() {
-        faultIs("splice 999 ;", 0, 2, 2);
-        faultIs("splice 9 9;splice 9 9999;", 11, 3, 2);
-        faultIs("splice 9 9;splice 9 9", 11, 4, 2);
-        faultIs("splice 9 9;length 9", 11, 3, 1);
-        faultIs("splice 9 9;length 60", 11, 4, 1);
-        faultIs("end 99999", 0, 3, 1);
-        faultIs("connector 0 9999 0;", 0, 3, 1);
-        faultIs("x;y;", 0, 1, 0);
+        Checks.faultIs("splice 999 ;", 0, 2, 2);
+        Checks.faultIs("splice 9 9;splice 9 9999;", 11, 3, 2);
+        Checks.faultIs("splice 9 9;splice 9 9", 11, 4, 2);
+        Checks.faultIs("splice 9 9;length 9", 11, 3, 1);
+        Checks.faultIs("splice 9 9;length 60", 11, 4, 1);
+        Checks.faultIs("end 99999", 0, 3, 1);
+        Checks.faultIs("connector 0 9999 0;", 0, 3, 1);
+        Checks.faultIs("x;y;", 0, 1, 0);
     }
 
     private static void promise4FaultWrongInputs() {

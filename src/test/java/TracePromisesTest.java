@@ -213,7 +213,7 @@ public final class TracePromisesTest {
         Checks.due("16: at most 30", y.events(), 30);
         Checks.due("16: an event(30, 0)", y.event(30, 0), Checks.INVALID);
         Checks.due("16: the 30th is not the end", y.event(29, 4) == 3 ? 1 : 0, 0);
-        Checks.due("16: without an event", dark().events(), 0);
+        Checks.due("16: without an event", Checks.dark().events(), 0);
     }
 
     private static void eventIs(FiberTrace x, int event, int... due) {
@@ -344,19 +344,8 @@ public final class TracePromisesTest {
         Checks.due("18: one event", x.events(), 1);
         Checks.due("18: falls to its end", x.total(6), 50000 - 17000);
         for (int what = 0; what < 8; what++) {
-            Checks.due("18: total(" + what + ") without events", dark().total(what), 0);
+            Checks.due("18: total(" + what + ") without events", Checks.dark().total(what), 0);
         }
-    }
-
-    /** A fiber that falls too slowly for an event, to the level behind its end. */
-    private static FiberTrace dark() {
-        FiberTrace x = Checks.laid("attenuation 0;end 0;");
-        for (int place = 10; place < 100; place += 10) {
-            x.addPart(0, place, 5000, 0);
-        }
-        x.set(0, 20);
-        x.set(7, 2000);
-        return x;
     }
 
     private static void promise19EventAt() {
@@ -378,7 +367,7 @@ public final class TracePromisesTest {
         FiberTrace x = new FiberTrace();
         x.set(8, 40000);
         Checks.due("20: the end alone", x.worst(), Checks.NOT_FOUND);
-        Checks.due("20: no event", dark().worst(), Checks.NOT_FOUND);
+        Checks.due("20: no event", Checks.dark().worst(), Checks.NOT_FOUND);
         x.addPart(0, 50, 400, 0);
         Checks.due("20: not the end", x.worst(), 0);
         x.addPart(0, 100, 400, 0);
