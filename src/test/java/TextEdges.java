@@ -31,6 +31,7 @@ final class TextEdges {
         noSemicolon();
         firstReason();
         numbersOfFaults();
+        numbersOfWholeItems();
         characters();
         lengths();
         limitOfCharacters();
@@ -327,15 +328,25 @@ final class TextEdges {
     }
 
     private static void numbersOfFaults() {
-        Checks.sentence("Texts", "The number of the fault is 0 for the word, 1 for its first number, and so on");
+        Checks.sentence("Texts", "The number of the fault is 0 for the word, 1 for its first number, and so on:"
+                + " which one is missing or out of range");
         Checks.faultIs("x", 0, 1, 0);
+        Checks.faultIs("connector", 0, 2, 1);
+        Checks.faultIs("connector 60 ", 0, 2, 2);
+        Checks.faultIs("connector 60 5000 -", 0, 2, 3);
         Checks.faultIs("connector 0 5001 0;", 0, 3, 1);
         Checks.faultIs("connector 60 5001 0;", 0, 3, 2);
         Checks.faultIs("connector 60 5000 0;", 0, 3, 3);
-        Checks.faultIs("connector 60 60 60", 0, 5, 3);
-        Checks.faultIs("change 60 5;connector 60 60 60;", 12, 4, 3);
-        Checks.faultIs("change 60 5;change 60 60;", 12, 3, 2);
-        Checks.faultIs("change 60 5;change 60 5;", 12, 4, 2);
+        Checks.faultIs("change 60 5;change 60 51;", 12, 3, 2);
+    }
+
+    private static void numbersOfWholeItems() {
+        Checks.sentence("Texts", "(for 4 and 5 the number of all its numbers)");
+        for (int word = 0; word < 6; word++) {
+            String item = ITEMS[word];
+            Checks.faultIs(item + item, item.length(), 4, NUMBERS[word]);
+            Checks.faultIs(item.substring(0, item.length() - 1), 0, 5, NUMBERS[word]);
+        }
     }
 
     private static void characters() {
