@@ -1,4 +1,5 @@
 import java.util.ArrayList;
+import java.util.Arrays;
 import java.util.List;
 import java.util.function.ToIntFunction;
 
@@ -217,7 +218,11 @@ final class ChangeEdges {
 
     /** Keeps the traces of these seeds, one after the other. */
     private static FiberTrace kept(int... seeds) {
-        FiberTrace x = new FiberTrace();
+        return keptOf(200, seeds);
+    }
+
+    private static FiberTrace keptOf(int length, int... seeds) {
+        FiberTrace x = Checks.laid("length " + length + ";");
         x.set(3, 400);
         x.set(4, 1);
         for (int seed : seeds) {
@@ -494,6 +499,8 @@ final class ChangeEdges {
         keptAre(kept(1, 2, 3), 1, 2, 3);
         keptAre(kept(1, 2, 3, 4), 2, 3, 4);
         keptAre(kept(1, 2, 3, 4, 5, 6, 7, 8, 9, 10), 8, 9, 10);
+        keptAre(keptOf(50, 1, 2, 3, 4), 2, 3, 4);
+        keptAre(keptOf(400, 1, 2, 3, 4), 2, 3, 4);
     }
 
     private static void numbersOfKeptTraces() {
@@ -511,20 +518,24 @@ final class ChangeEdges {
     /** Five keeps drop all three; five undos bring them back, whatever was kept. */
     private static void keptTracesAfterUndo() {
         Checks.sentence("23", "the oldest one is dropped.");
-        FiberTrace x = kept(1, 2, 3);
-        for (int i = 0; i < 5; i++) {
-            x.keep();
+        int[] seeds = {1, 2, 3, 4, 5, 6, 7, 8, 9, 10, 11};
+        for (int keeps = 3; keeps <= seeds.length; keeps++) {
+            for (int length : new int[] {50, 400}) {
+                FiberTrace x = keptOf(length, Arrays.copyOf(seeds, keeps));
+                for (int i = 0; i < 5; i++) {
+                    x.keep();
+                }
+                for (int left = 4; left >= 0; left--) {
+                    Checks.due("undo", x.undo(), left);
+                }
+                keptAre(x, keeps - 2, keeps - 1, keeps);
+                x.set(5, 99);
+                x.keep();
+                keptAre(x, keeps - 1, keeps, 99);
+                x.undo();
+                keptAre(x, keeps - 2, keeps - 1, keeps);
+            }
         }
-        for (int i = 0; i < 5; i++) {
-            x.undo();
-        }
-        Checks.due("history", x.count(17), 0);
-        keptAre(x, 1, 2, 3);
-        x.set(5, 9);
-        x.keep();
-        keptAre(x, 2, 3, 9);
-        x.undo();
-        keptAre(x, 1, 2, 3);
     }
 
     /** A kept trace of one length, and a present one of another; both fall from 50000 to 5000 at their ends. */

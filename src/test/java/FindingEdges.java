@@ -7,6 +7,7 @@ final class FindingEdges {
 
     static void check() {
         toleranceOfParts();
+        foundAtTheFirstPlaces();
         foundByTheEnd();
         notFoundByAGhost();
         hiddenInAnEvent();
@@ -49,6 +50,17 @@ final class FindingEdges {
         FiberTrace x = Checks.flat("splice 100 300;connector 120 0 3000;");
         x.set(9, 0);
         Checks.row("with T 0", n -> x.part(n, 4), 0, 0, 0);
+    }
+
+    private static void foundAtTheFirstPlaces() {
+        Checks.sentence("Parts and events", "A splice or connector of the link is found if some event");
+        FiberTrace x = Checks.flat("connector 1 300 3000;splice 4 0;splice 5 0;");
+        Checks.row("finding", n -> x.part(n, 4), 0, 0, 0, 2);
+        Checks.row("event", n -> x.part(n, 5), 0, 0, 0, NONE);
+        x.set(9, 20);
+        Checks.row("finding with T 20", n -> x.part(n, 4), 0, 0, 0, 0);
+        Checks.row("event with T 20", n -> x.part(n, 5), 0, 0, 0, 0);
+        Checks.due("without an event", Checks.flat("splice 1 0;").part(0, 4), 2);
     }
 
     private static void foundByTheEnd() {

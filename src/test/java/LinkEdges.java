@@ -23,6 +23,7 @@ final class LinkEdges {
         lineLossPlaces();
         lineLossUnits();
         lineLossParts();
+        lineLossOfWhatRemains();
         kinds();
         storedLosses();
         storedAttenuations();
@@ -223,6 +224,18 @@ final class LinkEdges {
         FiberTrace x = Checks.laid("attenuation 0;splice 1 -50;connector 2 5 9;change 3 0;splice 199 1000;");
         Checks.row("lineLoss", x::lineLoss, 0, 0, 0, -50, -45, -45);
         Checks.row("lineLoss", x::lineLoss, 198, -45, -45, 955);
+    }
+
+    private static void lineLossOfWhatRemains() {
+        Checks.sentence("12", "Returns the line loss up to a place.");
+        FiberTrace x = Checks.laid("splice 60 100;change 80 50;");
+        Checks.due("with both", x.lineLoss(200), 800 + 120 * 50 + 100);
+        x.removePart(1);
+        Checks.due("without the change", x.lineLoss(200), 2100);
+        Checks.due("base without the change", x.sample(199, 1), 50000 - 1990 - 100);
+        x.removePart(0);
+        Checks.due("without parts", x.lineLoss(200), 2000);
+        Checks.due("base without parts", x.sample(199, 1), 50000 - 1990);
     }
 
     private static void kinds() {

@@ -44,6 +44,7 @@ final class ReadingEdges {
         eventKinds();
         eventMakers();
         totals();
+        totalsOfFewerEvents();
         totalsWithoutEvents();
         totalOfTheEnd();
         wrongTotals();
@@ -510,6 +511,23 @@ final class ReadingEdges {
         Checks.due("ghosts", y.total(5), 1);
         FiberTrace many = manyEvents(0);
         Checks.row("total", many::total, 2, 0, 0, 7, 21);
+    }
+
+    /** Nothing of the ghost, nor of the end behind it, is left when there are fewer events. */
+    private static void totalsOfFewerEvents() {
+        Checks.sentence("18", "0: the losses of all events; 1: the losses of all sections ahead of them");
+        FiberTrace x = ghostly("connector 80 100 3000;");
+        Checks.row("total", x::total, 0, 45000, 0, 100, 0, 2, 1, 45000, 1);
+        x.removePart(2);
+        x.removePart(0);
+        Checks.row("total", x::total, 0, 45000, 0, 0, 0, 1, 0, 45000, 1);
+        x.removePart(0);
+        Checks.row("total", x::total, 0, 45000, 0, 0, 0, 0, 0, 45000, 1);
+        FiberTrace y = Checks.laid("splice 60 300;");
+        y.set(2, 40000);
+        Checks.due("sections", y.total(1), 59 * 10 + 135 * 10);
+        y.removePart(0);
+        Checks.due("the only section", y.total(1), 1990);
     }
 
     private static void totalsWithoutEvents() {
